@@ -8,7 +8,7 @@ public final class LongRunsTest {
         for (int n = -1; n <= 18; n++) {
             int runs = n <= 8 ? 60 : n <= 12 ? 16 : 4;
             for (int r = 0; r < runs; r++) {
-                run(n, 1 + r % 4, 2 + below(20));
+                run(n, 1 + r % 4, 2 + below(20), r % 4 == 3 ? 398 : 0);
             }
         }
         DUE.end();
@@ -20,10 +20,15 @@ public final class LongRunsTest {
         return (int) ((seed >>> 33) % bound);
     }
 
-    private static void run(int given, int width, int drops) {
+    private static void run(int given, int width, int drops, int filled) {
         ClauseSolver x = new ClauseSolver(given);
         PlainSolver plain = new PlainSolver(given);
-        for (int call = 0; call < CALLS; call++) {
+        for (int call = 0; call < filled; call++) {
+            int y = bits(given, 6);
+            int n = bits(given, 6);
+            DUE.is("N " + given + ", filling: some(" + y + ", " + n + ")", x.some(y, n), plain.some(y, n));
+        }
+        for (int call = filled; call < CALLS; call++) {
             String of = "N " + given + ", call " + call + ": ";
             int kind = below(60);
             if (kind < drops) {

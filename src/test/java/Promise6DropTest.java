@@ -3,6 +3,7 @@ public final class Promise6DropTest {
     public static void main(String[] args) {
         Due due = new Due();
         lastOneTakesTheNumber(due);
+        lastOneMayNameFalse(due);
         dropsFromTheFullRow(due);
         answersNoneForOthers(due);
         due.end();
@@ -25,6 +26,20 @@ public final class Promise6DropTest {
             due.is("answer() of none", x.answer(), 0);
             due.is("drop(0) without a clause", x.drop(0), ClauseSolver.NONE);
             due.is("some after all that", x.some(0, 1), 1);
+        }
+    }
+
+    private static void lastOneMayNameFalse(Due due) {
+        for (int v = 1; v < 16; v++) {
+            ClauseSolver x = new ClauseSolver(16);
+            x.wish(v, true);
+            x.some(1, 0);
+            x.some(0, 1 << v);
+            due.is("answer() of 0, not " + v, x.answer(), 1);
+            due.is("drop(0)", x.drop(0), 1);
+            due.is("answer() of not " + v, x.answer(), 0);
+            due.is("drop(0), the only one", x.drop(0), 0);
+            due.is("answer() of none", x.answer(), 1 << v);
         }
     }
 
