@@ -2,20 +2,33 @@
 public final class Promise1NewObjectTest {
     public static void main(String[] args) {
         Due due = new Due();
-        int[][] clamped = {
-            {Integer.MIN_VALUE, 1}, {-1, 1}, {0, 1}, {17, 16}, {32, 16}, {Integer.MAX_VALUE, 16}
-        };
-        for (int[] pair : clamped) {
-            startsEmpty(due, pair[0], pair[1]);
-        }
+        takesWhatFits(due);
+        clampsTooSmall(due);
+        clampsTooLarge(due);
+        objectsAreApart(due);
+        theConstants(due);
+        due.end();
+    }
+
+    private static void takesWhatFits(Due due) {
+        due.under("N: variables, 1 to 16");
         for (int n = 1; n <= 16; n++) {
             startsEmpty(due, n, n);
         }
-        objectsAreApart(due);
-        due.is("REFUSED", ClauseSolver.REFUSED, -1);
-        due.is("NONE", ClauseSolver.NONE, -2);
-        due.is("FULL", ClauseSolver.FULL, -3);
-        due.end();
+    }
+
+    private static void clampsTooSmall(Due due) {
+        due.under("N: variables, 1 to 16, clamped: too small");
+        for (int given : new int[] {0, -1, -2, -16, -32, -65536 + 5, Edges.LOWEST, Edges.LOWEST + 4}) {
+            startsEmpty(due, given, 1);
+        }
+    }
+
+    private static void clampsTooLarge(Due due) {
+        due.under("N: variables, 1 to 16, clamped: too large");
+        for (int given : new int[] {17, 18, 31, 32, 33, 64, 256 + 3, 65536 + 5, Edges.HIGHEST}) {
+            startsEmpty(due, given, 16);
+        }
     }
 
     private static void startsEmpty(Due due, int given, int n) {
@@ -27,20 +40,35 @@ public final class Promise1NewObjectTest {
         due.is(of + "solve()", x.solve(), true);
         due.is(of + "answer()", x.answer(), 0);
         due.is(of + "literal(N, true)", x.literal(n, true), ClauseSolver.REFUSED);
+        due.is(of + "literal(N - 1, true)", x.literal(n - 1, true), 1);
         for (int v = 0; v < n; v++) {
             due.is(of + "wish(" + v + ", true)", x.wish(v, true), false);
         }
-        due.is(of + "answer(), all wished", x.answer(), (1 << n) - 1);
+        due.is(of + "wish(N, true)", x.wish(n, true), false);
+        due.is(of + "answer(), all wished", x.answer(), Edges.all(n));
+        x.some(0, -1);
+        due.is(of + "answer(), not all", x.answer(), Edges.all(n - 1));
     }
 
     private static void objectsAreApart(Due due) {
+        due.under("A new object");
         ClauseSolver one = new ClauseSolver(4);
-        ClauseSolver other = new ClauseSolver(4);
+        ClauseSolver other = new ClauseSolver(5);
         one.wish(0, true);
         one.literal(1, true);
         one.some(0, 0);
+        due.is("other.count(0)", other.count(0), 5);
         due.is("other.count(1)", other.count(1), 0);
         due.is("other.count(2)", other.count(2), 0);
         due.is("other.answer()", other.answer(), 0);
+        due.is("one.count(0)", one.count(0), 4);
+        due.is("one.count(1)", one.count(1), 1);
+    }
+
+    private static void theConstants(Due due) {
+        due.under("REFUSED = -1, NONE = -2, FULL = -3");
+        due.is("REFUSED", ClauseSolver.REFUSED, -1);
+        due.is("NONE", ClauseSolver.NONE, -2);
+        due.is("FULL", ClauseSolver.FULL, -3);
     }
 }

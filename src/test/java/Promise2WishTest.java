@@ -4,11 +4,13 @@ public final class Promise2WishTest {
         Due due = new Due();
         answersWhatWasBefore(due);
         leavesAllElseAlone(due);
-        refusesOthers(due);
+        answersFalseForOthers(due);
+        changesNothingForOthers(due);
         due.end();
     }
 
     private static void answersWhatWasBefore(Due due) {
+        due.under("A variable is wished true or false: what was wished before.");
         for (int n = 1; n <= 16; n++) {
             ClauseSolver x = new ClauseSolver(n);
             for (int v = 0; v < n; v++) {
@@ -24,6 +26,7 @@ public final class Promise2WishTest {
     }
 
     private static void leavesAllElseAlone(Due due) {
+        due.under("A variable is wished, and no other");
         ClauseSolver x = new ClauseSolver(12);
         x.some(1, 2);
         x.literal(3, true);
@@ -36,18 +39,39 @@ public final class Promise2WishTest {
         due.is("count(2)", x.count(2), 1);
     }
 
-    private static void refusesOthers(Due due) {
-        int[] none = {-1, -32, 5, 6, 16, 31, 32, 33, 37, Integer.MIN_VALUE, Integer.MAX_VALUE};
-        ClauseSolver x = new ClauseSolver(5);
-        x.wish(0, true);
-        x.wish(4, true);
-        for (int v : none) {
-            due.is("wish(" + v + ", true)", x.wish(v, true), false);
-            due.is("wish(" + v + ", true), again", x.wish(v, true), false);
-            due.is("answer() after wish(" + v + ", true)", x.answer(), 17);
-            due.is("wish(" + v + ", false)", x.wish(v, false), false);
-            due.is("answer() after wish(" + v + ", false)", x.answer(), 17);
+    /** All variables are wished true, so that an answer out of any of them would be true. */
+    private static void answersFalseForOthers(Due due) {
+        due.under("False if there is no such variable.");
+        for (int n = 1; n <= 16; n++) {
+            ClauseSolver x = new ClauseSolver(n);
+            Edges.wishAll(x, n, true);
+            for (int v : Edges.noVariables(n)) {
+                String of = "N " + n + ": wish(" + v + ", ";
+                due.is(of + "true)", x.wish(v, true), false);
+                due.is(of + "true), again", x.wish(v, true), false);
+                due.is(of + "false)", x.wish(v, false), false);
+            }
         }
-        due.is("wish(16, true) of 16", new ClauseSolver(16).wish(16, true), false);
+    }
+
+    private static void changesNothingForOthers(Due due) {
+        due.under("Nothing changes if there is no such variable.");
+        for (int n = 1; n <= 16; n++) {
+            for (int v : Edges.noVariables(n)) {
+                ClauseSolver x = new ClauseSolver(n);
+                x.literal(n - 1, false);
+                x.wish(v, true);
+                due.is("N " + n + ": answer() after wish(" + v + ", true)", x.answer(), 0);
+                Edges.wishAll(x, n, true);
+                x.wish(v, false);
+                due.is("N " + n + ": answer() after wish(" + v + ", false)", x.answer(), Edges.all(n));
+                due.is("N " + n + ": count(0)", x.count(0), n);
+                due.is("N " + n + ": count(1)", x.count(1), 0);
+                due.is("N " + n + ": count(2)", x.count(2), 1);
+                for (int u = 0; u < n; u++) {
+                    due.is("N " + n + ": wish(" + u + ", false)", x.wish(u, false), true);
+                }
+            }
+        }
     }
 }
